@@ -1003,7 +1003,7 @@ public final class ArmCounts {
             return total > 0;
         }
 
-        /** COUNTS may begin on another HAND and the MAT be another since a CLUE was told, so its numbers are found anew. */
+        /** A COUNT's HAND and the MAT may be others than when a CLUE was told, so its numbers are found anew. */
         private void prepare(Counts counts) {
             for (int c = 0; c < size && c < ROOM; c++) {
                 allowed[c] = NO;
@@ -1240,7 +1240,7 @@ public final class ArmCounts {
             return 0;
         }
 
-        /** Whether the first persons of the row can be gone on with to the length, all later ones above the first. */
+        /** Whether a row that has so many persons can go on to its length, all later ones being above the first. */
         private boolean goOn(int depth, int length) {
             if (depth < 1 || depth > ROOM) {
                 return false;
@@ -1249,15 +1249,20 @@ public final class ArmCounts {
             if (depth >= length) {
                 return left(last, row[0]) > 0;
             }
-            for (int p = row[0] + 1; p < size && depth < ROOM; p++) {
-                if (left(last, p) > 0 && !inRow(p, depth)) {
-                    row[depth] = p;
-                    if (goOn(depth + 1, length)) {
-                        return true;
-                    }
+            for (int p = row[0] + 1; p < size; p++) {
+                if (left(last, p) > 0 && !inRow(p, depth) && goOnWith(p, depth, length)) {
+                    return true;
                 }
             }
             return false;
+        }
+
+        private boolean goOnWith(int p, int depth, int length) {
+            if (depth < 0 || depth >= ROOM) {
+                return false;
+            }
+            row[depth] = p;
+            return goOn(depth + 1, length);
         }
 
         private boolean inRow(int p, int depth) {

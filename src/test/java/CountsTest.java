@@ -56,6 +56,9 @@ public final class CountsTest {
         due.is("20 and a nose", x.countBy(0, 20, true), 0);
         due.is("T", x.about(0, 0), 41);
         due.is("word 99", x.place(0, 21, 0), 99);
+        for (int k = 1; k <= 41; k++) {
+            due.is("word at " + k + " of 41", x.place(0, k, 0), k <= 21 ? 78 + k : 120 - k);
+        }
         due.is("m 1", x.countBy(0, 1, false), 1);
         due.is("T of m 1", x.about(1, 0), 2);
         due.is("both places of m 1", x.place(1, 1, 0) * 100 + x.place(1, 2, 0), 7979);
@@ -66,6 +69,8 @@ public final class CountsTest {
         x.put(0, 2, 20, 80);
         due.is("nose as another", x.countBy(0, 20, true), -3);
         due.is("without the nose", x.countBy(0, 20, false), 2);
+        x.put(0, 2, 0, 100);
+        due.is("the first is no word", x.countBy(0, 3, false), -3);
         Due.sheet(x, 1, 1, 4, 5, 6);
         due.is("not so many items", x.countBy(1, 4, false), -12);
         due.is("no item for a nose", x.countBy(1, 3, true), -12);

@@ -62,9 +62,11 @@ public final class ListsTest {
         for (int what = 0; what < 5; what++) {
             due.is("listIs(0, " + what + ")", x.listIs(0, what), want[what]);
         }
+        Due.list(x, 0, LOST, LOST, 3);
+        due.is("the first is lost", x.listIs(1, 2), 2);
         due.is("what 5", x.listIs(0, 5), -2);
         due.is("what -1", x.listIs(0, -1), -2);
-        due.is("list 1", x.listIs(1, 0), -2);
+        due.is("list 2", x.listIs(2, 0), -2);
         due.is("list -1", x.listIs(-1, 0), -2);
     }
 
@@ -75,9 +77,12 @@ public final class ListsTest {
         Due.list(x, 0, 1, 2, 3, 4, 5, 6, 7, 8, 9, 10, 1, 0, 0);
         Due.list(x, 0, LOST, 2, 3, 4, 5, 6, 7, 8, 9, 10, LOST, LOST);
         Due.list(x, 0, 1, 2, 3, 4, 5, 6, 7, 8, 9, 10, 11, 12, 13, 14, 15, 16, 17, 18, 19, 20, 1, 2, 13, 14, 15, 16, 17, 18, 19, 20);
-        int[] tens = {0, 1, 1, 0, 2};
-        int[] shopped = {0, 1, 0, 0, 0};
-        for (int l = 0; l < 5; l++) {
+        Due.list(x, 0, 1, 2, 3, 4, 5, 6, 7, 8, 9, 10, 1);
+        Due.list(x, 0, LOST, 2, LOST, 4, 5, 6, 7, 8, 9, 10, LOST, 3, 5, LOST);
+        Due.list(x, 0, LOST, 2, LOST, 4, 5, 6, 7, 8, 9, 10, 7, 3, 5, LOST, 5);
+        int[] tens = {0, 1, 1, 0, 2, 1, 0, 1};
+        int[] shopped = {0, 1, 0, 0, 0, 1, 0, 1};
+        for (int l = 0; l < 8; l++) {
             due.is("of tens " + l, x.listIs(l, 3), tens[l]);
             due.is("shopped " + l, x.listIs(l, 4), shopped[l]);
         }
@@ -106,7 +111,12 @@ public final class ListsTest {
                 due.is("changes(" + a + ", " + b + ")", x.changes(a, b), want[a][b]);
             }
         }
-        due.is("no list", x.changes(0, 7), -2);
+        Due.list(x, 0, Due.row(30, 50));
+        due.is("thirty put in", x.changes(3, 7), 60);
+        due.is("thirty left out", x.changes(7, 3), 60);
+        due.is("thirty kept", x.changes(7, 7), 0);
+        due.is("thirty of three", x.changes(0, 7), 63);
+        due.is("no list", x.changes(0, 8), -2);
         due.is("no list -1", x.changes(-1, 0), -2);
     }
 
@@ -130,6 +140,20 @@ public final class ListsTest {
         due.is("the eldest", x.mother(5), -1);
         due.is("list 7", x.mother(7), -2);
         due.is("list -1", x.mother(-1), -2);
+        motherYears();
+    }
+
+    private static void motherYears() {
+        ArmCounts x = new ArmCounts();
+        Due.list(x, 10, 1, 2);
+        Due.list(x, 100, 1, 3);
+        Due.list(x, 50, 1, 4);
+        Due.list(x, 60, 5, 5);
+        due.is("a later year with more changes", x.mother(1), 2);
+        Due.list(x, 70, 1, 7);
+        due.is("a later year with as many", x.mother(1), 4);
+        Due.list(x, 70, 1, 7);
+        due.is("the same year with as many", x.mother(1), 4);
     }
 
     private static void mothers() {
@@ -173,6 +197,11 @@ public final class ListsTest {
         due.is("two empty ones", x.mothers(0), 12);
         due.is("nothing strange", x.strange(0), 0);
         due.is("1 has one", x.mothers(1), -1);
+        Due.list(x, 1, 4, 5);
+        Due.list(x, 1, 4, 5);
+        Due.list(x, 9, 3, 5);
+        due.is("two of two words", x.mothers(5), 34);
+        due.is("the first word is strange", x.strange(5), 1);
     }
 
     private static void age() {
@@ -202,8 +231,14 @@ public final class ListsTest {
         due.is("between the two", x.slips(0, 1), 2);
         Due.list(x, 0, 5, 1, 1, 1, LOST);
         due.is("at another item", x.slips(0, 1), 2);
+        due.is("earlier ones have both", x.slips(1, 4), 0);
         due.is("itself", x.slips(1, 1), -2);
         due.is("no list", x.slips(1, 6), -2);
         due.is("no list -1", x.slips(-1, 1), -2);
+        x = new ArmCounts();
+        Due.list(x, 1, 7, 7);
+        Due.list(x, 2, 7, 8);
+        Due.list(x, 3, 7, 8);
+        due.is("list 0 has the first", x.slips(1, 2), 1);
     }
 }

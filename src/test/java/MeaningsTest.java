@@ -10,6 +10,7 @@ public final class MeaningsTest {
         full();
         solutions();
         sums();
+        lesses();
         sure();
         quarrel();
         clueFollowsTheCount();
@@ -36,6 +37,7 @@ public final class MeaningsTest {
         due.is("two men up to 14", x.meanings(0, 1, -1, 2, 14), 1);
         due.is("two men up to 10", x.meanings(0, 1, -1, 2, 10), 0);
         due.is("most 1", x.meanings(0, 1, -1, -1, 1), 1);
+        due.is("word 0", x.meanings(0, 0, -1, -1, 400), 0);
         due.is("a word it has not", x.meanings(0, 99, -1, -1, 400), 0);
         due.is("count 1", x.meanings(1, 5, 1, 20, 400), 1);
         x.begins(0, 1);
@@ -103,6 +105,9 @@ public final class MeaningsTest {
         due.is("mats backward", x.mats(0, 3, 2), -2);
         due.is("mats to 41", x.mats(0, 3, 41), -2);
         due.is("none yet", x.count(1), 0);
+        due.is("mats 1 to 1", x.mats(0, 1, 1), 1);
+        due.is("by it", x.solutions(), 900);
+        due.is("forget it", x.forget(), 1);
         due.is("a point", x.clue(0, 0, 1, -1, -1), 1);
         due.is("solutions by it", x.solutions(), 12 * 900);
         due.is("a point by the other", x.clue(0, 1, 1, 0, -1), 2);
@@ -184,6 +189,21 @@ public final class MeaningsTest {
         }
     }
 
+    private static void lesses() {
+        for (int i = 0; i < 3; i++) {
+            for (int j = 0; j < 3; j++) {
+                ArmCounts x = new ArmCounts();
+                x.mat(40);
+                due.is("less", x.less(i, j), i == j ? -2 : 1);
+                due.is("less(" + i + ", " + j + ")", x.solutions(), i == j ? 64000 : 40 * 39 / 2 * 40);
+                if (i != j) {
+                    due.is("the lesser in the first", x.solution(0, i), 1);
+                    due.is("the other in the first", x.solution(0, j), 2);
+                }
+            }
+        }
+    }
+
     private static void sure() {
         ArmCounts x = new ArmCounts();
         due.is("several", x.sure(0), -1);
@@ -231,6 +251,9 @@ public final class MeaningsTest {
         x.forget();
         x.mats(0, 31, 40);
         due.is("above the mat", x.quarrel(), 1);
+        x.mats(1, 1, 2);
+        x.less(1, 2);
+        due.is("the first alone", x.quarrel(), 1);
         x.mat(31);
         due.is("a larger mat", x.quarrel(), 0);
     }

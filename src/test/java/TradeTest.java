@@ -59,6 +59,9 @@ public final class TradeTest {
         due.is("itself", x.trap(0, 0), -1);
         due.is("2 is 3", x.trap(0, 2), 2);
         due.is("3 is 2", x.trap(2, 0), 3);
+        x.begins(2, 1);
+        due.is("1 is 6", x.trap(0, 2), 1);
+        x.begins(2, 0);
         due.is("1 and 4", x.clear(0, 2, 400), 2);
         due.is("most 0", x.clear(0, 1, 0), -2);
         due.is("most 401", x.clear(0, 1, 401), -2);
@@ -134,7 +137,9 @@ public final class TradeTest {
     private static void told() {
         ArmCounts x = people(2);
         due.is("nothing", x.told(1, 0), 0);
-        x.gift(0, 1, 5);
+        x.gift(0, 1, 1);
+        due.is("1", x.told(1, 0), 1);
+        x.gift(0, 1, 4);
         due.is("5 by T 5", x.told(1, 0), 5);
         x.gift(0, 1, 1);
         due.is("6 by T 5", x.told(1, 0), 101);
