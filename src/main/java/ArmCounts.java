@@ -426,7 +426,8 @@ public final class ArmCounts {
             return finding;
         }
         int found = 0;
-        for (int walk = 0; walk < allWalks(); walk++) {
+        int walks = allWalks();
+        for (int walk = 0; walk < walks; walk++) {
             if (isReading(s, n, walk)) {
                 found++;
             }
@@ -444,7 +445,8 @@ public final class ArmCounts {
             return finding;
         }
         int found = 0;
-        for (int walk = 0; walk < allWalks(); walk++) {
+        int walks = allWalks();
+        for (int walk = 0; walk < walks; walk++) {
             if (isReading(s, n, walk)) {
                 if (found == i) {
                     return 100000 * countOfWalk(walk) + 1000 * stepOfWalk(walk) + startOfWalk(walk);
