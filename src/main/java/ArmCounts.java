@@ -41,17 +41,14 @@ public final class ArmCounts {
             return sheets.find(NULL);
         }
         int needed = nose ? m + 1 : m;
-        // The order of refusals puts INDEX behind NOT and FULL, so the items that are there are judged first.
-        if (!sheets.unlikeWords(s, needed)) {
-            return NOT;
-        }
-        if (counts.isFull()) {
-            return FULL;
-        }
+        // Here the promise's own order holds, INDEX ahead of NOT and FULL, not the one of "Terms".
         if (needed > sheets.sizeOf(s)) {
             return sheets.find(INDEX);
         }
-        return counts.learn(sheets, s, m, nose);
+        if (!sheets.unlikeWords(s, needed)) {
+            return NOT;
+        }
+        return counts.isFull() ? FULL : counts.learn(sheets, s, m, nose);
     }
 
     /** Promise 3. */
@@ -298,13 +295,11 @@ public final class ArmCounts {
         if (sheets.lost(s)) {
             return sheets.find(NULL);
         }
-        if (lists.isFull()) {
-            return FULL;
-        }
+        // As in countBy: the promise's own order, INDEX ahead of FULL.
         if (n > sheets.sizeOf(s)) {
             return sheets.find(INDEX);
         }
-        return lists.keep(sheets, s, n, year);
+        return lists.isFull() ? FULL : lists.keep(sheets, s, n, year);
     }
 
     /** Promise 30. */
@@ -745,10 +740,9 @@ public final class ArmCounts {
             return true;
         }
 
-        /** Whether all of the first n items that are there are WORDS, no two alike. */
+        /** Whether the first n items are WORDS, no two alike. */
         boolean unlikeWords(int s, int n) {
-            int there = Math.min(n, sizeOf(s));
-            for (int i = 0; i < there; i++) {
+            for (int i = 0; i < n; i++) {
                 int w = wordAt(s, i);
                 if (w == NONE) {
                     return false;

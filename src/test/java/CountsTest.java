@@ -85,18 +85,29 @@ public final class CountsTest {
         due.is("six", x.count(0), 6);
     }
 
-    /** The order of refusals: BAD, NULL, NOT, FULL, other FINDINGS. */
+    /** The order of the promise's own list: BAD, NULL, INDEX, NOT, FULL. */
     private static void countByOrder() {
         ArmCounts x = new ArmCounts();
         Due.sheet(x, 0, 2, 7, 7, 1);
-        due.is("NOT ahead of INDEX", x.countBy(0, 5, false), -3);
+        due.is("NOT", x.countBy(0, 3, false), -3);
         due.is("no finding", x.count(8), 0);
+        due.is("INDEX ahead of NOT", x.countBy(0, 4, false), -12);
+        due.is("count(8)", x.count(8), 2);
+        due.is("INDEX of the nose ahead of NOT", x.countBy(0, 3, true), -12);
+        due.is("NULL ahead of INDEX", x.countBy(2, 4, false), -11);
+        due.is("BAD ahead of INDEX", x.countBy(0, 21, false), -2);
+        due.is("count(8) is left by BAD", x.count(8), 1);
         Due.sheet(x, 1, 2, 1, 2, 3);
         for (int i = 0; i < 6; i++) {
             x.countBy(1, 3, false);
         }
         due.is("NOT ahead of FULL", x.countBy(0, 3, false), -3);
-        due.is("FULL ahead of INDEX", x.countBy(1, 4, false), -4);
+        due.is("FULL", x.countBy(1, 3, false), -4);
+        due.is("FULL is no finding", x.count(8), 1);
+        due.is("INDEX ahead of FULL", x.countBy(1, 4, false), -12);
+        due.is("INDEX of the nose ahead of FULL", x.countBy(1, 3, true), -12);
+        due.is("INDEX ahead of NOT and FULL", x.countBy(0, 4, false), -12);
+        due.is("six", x.count(0), 6);
         due.is("NULL ahead of FULL", x.countBy(2, 4, false), -11);
         due.is("BAD ahead of NULL", x.countBy(2, 0, false), -2);
         due.is("BAD ahead of FULL", x.countBy(1, 21, false), -2);

@@ -49,8 +49,11 @@ public final class ListsTest {
             due.is("list " + l, x.list(1, 1, l), l);
         }
         due.is("FULL", x.list(1, 1, 1), -4);
-        due.is("FULL ahead of INDEX", x.list(1, 5, 1), -4);
         due.is("NULL ahead of FULL", x.list(2, 1, 1), -11);
+        due.is("FULL with all items", x.list(1, 4, 1), -4);
+        due.is("FULL is no finding", x.count(8), 1);
+        due.is("INDEX ahead of FULL", x.list(1, 5, 1), -12);
+        due.is("count(8) INDEX", x.count(8), 2);
         due.is("BAD ahead of FULL", x.list(1, 31, 1), -2);
         due.is("eight", x.count(4), 8);
     }

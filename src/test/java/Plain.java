@@ -107,17 +107,17 @@ final class Plain {
             return find(1);
         }
         int all = m + (nose ? 1 : 0);
+        if (all > length(s)) {
+            return find(2);
+        }
         Set<Integer> seen = new HashSet<>();
-        for (int i = 0; i < all && i < length(s); i++) {
+        for (int i = 0; i < all; i++) {
             if (!in(item(s, i), 0, 99) || !seen.add(item(s, i))) {
                 return NOT;
             }
         }
         if (counts.size() == 6) {
             return FULL;
-        }
-        if (all > length(s)) {
-            return find(2);
         }
         Count c = new Count();
         c.m = m;
@@ -466,11 +466,11 @@ final class Plain {
         if (sheets[s] == null) {
             return find(1);
         }
-        if (lists.size() == 8) {
-            return FULL;
-        }
         if (n > length(s)) {
             return find(2);
+        }
+        if (lists.size() == 8) {
+            return FULL;
         }
         Words l = new Words();
         l.year = year;
