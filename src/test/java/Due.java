@@ -1,6 +1,14 @@
+import java.io.IOException;
+import java.io.UncheckedIOException;
+import java.nio.file.Files;
+import java.nio.file.Path;
+
 /** What a test saw: prints each answer that is not the one that is due. */
 final class Due {
+    private static final String DOCUMENT = read(Path.of("../shared/DOC.md"));
+
     private final String test;
+    private String sentence = "";
     private int seen;
     private int wrong;
 
@@ -8,11 +16,26 @@ final class Due {
         this.test = test;
     }
 
+    private static String read(Path path) {
+        try {
+            return Files.readString(path);
+        } catch (IOException e) {
+            throw new UncheckedIOException(e);
+        }
+    }
+
+    /** The words of the document that the answers to come are about: they must stand there, so that none is made up. */
+    void says(String words) {
+        sentence = words;
+        holds("the document says so", DOCUMENT.contains(words));
+    }
+
     void is(String call, long got, long want) {
         seen++;
         if (got != want) {
             wrong++;
-            System.out.println(test + ": " + call + " answered " + got + ", due is " + want);
+            String quoted = sentence.isEmpty() ? "" : "\"" + sentence + "\": ";
+            System.out.println(test + ": " + quoted + call + " answered " + got + ", due is " + want);
         }
     }
 
