@@ -7,7 +7,7 @@ public final class ArmCounts {
     private static final int NULL = 1, INDEX = 2, CAST = 3, STORE = 4, SIZE = 5;
     private static final int LAST_WORD = 99, LAST_NUMBER = 400, LAST_MEN = 20;
     private static final int LAST_START = 99, LAST_STEP = 20, LAST_TALE = 30;
-    private static final int BAD_SUM = -100000, NOT_SAID = -100001;
+    private static final int BAD_SUM = -100000, NOT_SAID = -100001, BAD_ITEM = -2147483648;
 
     private final Sheets sheets;
     private final Counts counts;
@@ -537,7 +537,7 @@ public final class ArmCounts {
     /** Promise 48. */
     public int get(int s, int form, int i) {
         if (!sheets.named(s) || !Sheets.isForm(form) || touch(s, form, i) != 0) {
-            return Integer.MIN_VALUE;
+            return BAD_ITEM;
         }
         return sheets.item(s, i);
     }

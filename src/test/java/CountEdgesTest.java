@@ -67,7 +67,7 @@ public final class CountEdgesTest {
     }
 
     private static void halves() {
-        due.says("rows of M (1 to 20) WORDS for places up the first side");
+        due.says("COUNTS 0 .. 5 (6 at most) are rows of M (1 to 20) WORDS for places up the first side, perhaps a NOSE");
         ArmCounts x = new ArmCounts();
         Due.sheet(x, 0, INTS, Due.row(60, 0));
         due.is("0", x.countBy(0, 0, false), BAD);
@@ -126,7 +126,7 @@ public final class CountEdgesTest {
     }
 
     private static void firstItems() {
-        due.says("M WORDS are the first m items of a SHEET, the NOSE the next one, if it has one: its number.");
+        due.says("A COUNT more: M WORDS are the first m items of a SHEET, the NOSE the next one, if it has one: its number.");
         for (int form = 0; form < 3; form++) {
             ArmCounts x = new ArmCounts();
             Due.sheet(x, 1, form, 5, 6, 7);
@@ -224,7 +224,7 @@ public final class CountEdgesTest {
         due.is("no HAND 2 to begin on", x.begins(0, 2), BAD);
         due.is("nor NONE", x.begins(0, -1), BAD);
         due.is("left still", x.about(0, 3), 1);
-        due.says("on SIDE 0 where it begins, on SIDE 1 the other, of the NOSE 2.");
+        due.says("the HAND of a PLACE is: on SIDE 0 where it begins, on SIDE 1 the other, of the NOSE 2.");
         int[][] hands = {{1, 1, 2, 0, 0}, {0, 0, 1, 1}};
         for (int c = 0; c < 2; c++) {
             for (int k = 1; k <= hands[c].length; k++) {
@@ -242,23 +242,30 @@ public final class CountEdgesTest {
         due.says("A number N (1 to 400) by a COUNT");
         for (int m : new int[] {1, 2, 10, 20}) {
             for (int nose = 0; nose < 2; nose++) {
-                ArmCounts x = new ArmCounts();
-                Due.sheet(x, 0, INTS, Due.row(21, 30));
-                x.countBy(0, m, nose == 1);
+                ArmCounts x = byHalf(m, nose);
                 for (int what = 0; what < 4; what++) {
                     due.is("0", x.number(0, 0, what), BAD);
                     due.holds("1", x.number(0, 1, what) >= 0);
                     due.holds("400", x.number(0, 400, what) >= 0);
                     due.is("401", x.number(0, 401, what), BAD);
                 }
-                menBy(x, 2 * m + nose);
+                menBy(m, nose);
             }
         }
     }
 
-    private static void menBy(ArmCounts x, int t) {
+    private static ArmCounts byHalf(int m, int nose) {
+        ArmCounts x = new ArmCounts();
+        Due.sheet(x, 0, INTS, Due.row(21, 30));
+        x.countBy(0, m, nose == 1);
+        return x;
+    }
+
+    private static void menBy(int m, int nose) {
+        int t = 2 * m + nose;
         due.says("MEN, how many are counted through ahead: (N less 1) by T, cut; and PLACE N less T MEN.");
         for (int men = 0; men * t < 400; men++) {
+            ArmCounts x = byHalf(m, nose);
             due.is("MEN of the first", x.number(0, men * t + 1, 0), men);
             due.is("PLACE of the first", x.number(0, men * t + 1, 1), 1);
             if (men * t + t <= 400) {
@@ -267,6 +274,7 @@ public final class CountEdgesTest {
                 due.is("WORD of the last", x.number(0, men * t + t, 2), 30);
             }
         }
+        ArmCounts x = byHalf(m, nose);
         due.is("MEN of 400", x.number(0, 400, 0), 399 / t);
         due.is("PLACE of 400", x.number(0, 400, 1), 400 - t * (399 / t));
     }

@@ -47,7 +47,7 @@ public final class ListEdgesTest {
     }
 
     private static void upTo30() {
-        due.says("the first n (0 to 30) items of a SHEET, those that are not 0 to 99 lost: its number.");
+        due.says("A LIST more of a YEAR: the first n (0 to 30) items of a SHEET, those that are not 0 to 99 lost: its number.");
         ArmCounts x = new ArmCounts();
         Due.sheet(x, 0, 0, Due.row(60, 0));
         due.is("-1", x.list(0, -1, 0), BAD);
@@ -69,7 +69,7 @@ public final class ListEdgesTest {
     }
 
     private static void years() {
-        due.says("of a YEAR (0 to 3000)");
+        due.says("are rows of up to 30 WORDS of a YEAR (0 to 3000)");
         ArmCounts x = new ArmCounts();
         x.sheet(0, 0, 0);
         due.is("-1", x.list(0, 0, -1), BAD);
@@ -146,7 +146,7 @@ public final class ListEdgesTest {
     }
 
     private static void ofTens() {
-        due.says("item i (from 0) is OF TENS, if it is not lost, and item i modulo 10 neither, and both are alike, for i 10 and above.");
+        due.says("TENS: a LIST's WORDS as by shops: item i (from 0) is OF TENS, if it is not lost, and item i modulo 10 neither, and both are alike, for i 10 and above.");
         for (int n : new int[] {0, 1, 9, 10, 11, 12, 20, 21, 30}) {
             ArmCounts x = new ArmCounts();
             Due.list(x, 0, tens(n));
@@ -210,7 +210,7 @@ public final class ListEdgesTest {
     }
 
     private static void changesOfItems() {
-        due.says("an item that is lost in either counts 0; WORDS that are unlike 3; an item that is put in, or left out, 2 (lost ones, too)");
+        due.says("CHANGES from one to another, item by item from the first on: an item that is lost in either counts 0; WORDS that are unlike 3; an item that is put in, or left out, 2 (lost ones, too)");
         ArmCounts x = new ArmCounts();
         Due.list(x, 0, 5);
         Due.list(x, 0, 6);
@@ -282,6 +282,8 @@ public final class ListEdgesTest {
     }
 
     private static void likeMothers() {
+        due.says("MOTHER; NONE. BAD.");
+        due.is("no LIST yet", new ArmCounts().mother(0), BAD);
         due.says("of like ones the later YEAR, then the least number; NONE without any.");
         ArmCounts x = new ArmCounts();
         Due.list(x, 50, 1);
@@ -327,8 +329,17 @@ public final class ListEdgesTest {
             Due.list(x, 60, 1);
         }
         Due.list(x, 1, 1);
-        Due.list(x, 2, 1);
+        Due.list(x, 2, 5);
         due.is("the last two", x.mothers(0), 67);
+        due.is("of the lesser one", x.strange(0), 0);
+        x = new ArmCounts();
+        for (int l = 0; l < 6; l++) {
+            Due.list(x, 60, 1);
+        }
+        Due.list(x, 1, 5);
+        Due.list(x, 2, 1);
+        due.is("the last two again", x.mothers(0), 67);
+        due.is("of the other one", x.strange(0), 0);
         x = new ArmCounts();
         Due.list(x, 1);
         Due.list(x, 2);
@@ -357,7 +368,7 @@ public final class ListEdgesTest {
     }
 
     private static void strange() {
-        due.says("so many WORDS are unlike both (lost ones aside: an item lost in it counts 0, one lost in either as like)");
+        due.says("and each of its items of the one or the other: so many WORDS are unlike both (lost ones aside: an item lost in it counts 0, one lost in either as like)");
         int[][] rows = {
             {5, 5, 5, 0}, {5, 5, 6, 0}, {5, 6, 5, 0}, {5, 6, 6, 1}, {5, 6, 7, 1}, {LOST, 6, 7, 0}, {LOST, LOST, 7, 0},
             {5, LOST, 7, 0}, {5, 7, LOST, 0}, {5, LOST, LOST, 0}, {LOST, LOST, LOST, 0}, {LOST, 6, 6, 0},

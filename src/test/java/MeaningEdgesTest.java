@@ -144,7 +144,7 @@ public final class MeaningEdgesTest {
     }
 
     private static void eight() {
-        due.says("CLUES, up to 8,");
+        due.says("CLUES, up to 8, of four KINDS:");
         for (int kind = 0; kind < 4; kind++) {
             ArmCounts x = three();
             for (int c = 1; c <= 8; c++) {
@@ -212,6 +212,9 @@ public final class MeaningEdgesTest {
             due.is("2", x.sure(r[2]), 2);
             x.mat(40);
             due.is("all", x.solutions(), 39 * 40 / 2);
+            for (int u = 0; u < 3; u++) {
+                due.is("none is sure", x.sure(u), NONE);
+            }
             x.mats(r[0], 39, 39);
             due.is("39 and 1", x.sure(r[2]), 40);
             x.mats(r[1], 2, 40);
@@ -308,6 +311,15 @@ public final class MeaningEdgesTest {
     }
 
     private static void order() {
+        due.says("How many SOLUTIONS.");
+        int[] cubes = {1, 8, 27, 64};
+        for (int most = 1; most <= 4; most++) {
+            ArmCounts x = new ArmCounts();
+            x.mat(most);
+            due.is("without CLUES", x.solutions(), cubes[most - 1]);
+            x.mats(0, 4, 4);
+            due.is("with one", x.solutions(), most < 4 ? 0 : 16);
+        }
         due.says("SOLUTIONS are all three numbers by which all CLUES hold, in order of UNKNOWN 0, then 1, then 2.");
         ArmCounts x = new ArmCounts();
         x.mat(3);

@@ -9,7 +9,9 @@ import java.util.Random;
 
 /** All promises: runs of many calls, the answers of each being those of the plain model. */
 public final class ModelTest {
-    private static final int RUNS = 250, CALLS = 500;
+    private static final int RUNS = 300;
+    /** So few that the last thing done in a run still ends within the calls that the document gives to an object. */
+    private static final int CALLS = 400;
     private static final int[] ODD = {-2, -1, 0, 1, 2, 99, 100, 400, 401, Integer.MAX_VALUE, Integer.MIN_VALUE};
     private static final String[] PHRASES = {
         "p1", "p3", "p12", "p05", "m1p2", "m20p4", "m0p1", "+", "-", "+", "-", "p0", "m", "x", "p1+m1p2-p3",
@@ -73,16 +75,24 @@ public final class ModelTest {
             }
         }
         call("digest");
+        call("count", 8);
+        due.holds("run " + seed + " has no more calls than an object is given", made <= Face.CALLS);
     }
 
-    private long call(String name, Object... arguments) throws ReflectiveOperationException {
+    private static boolean isFinding(long answer) {
+        return answer == Integer.MIN_VALUE || (answer <= -11 && answer >= -15);
+    }
+
+    private void call(String name, Object... arguments) throws ReflectiveOperationException {
         made++;
         Number want = (Number) models.get(name).invoke(plain, arguments);
         Number got = (Number) calls.get(name).invoke(x, arguments);
         String told = "run " + seed + ", call " + made + ": " + name + Arrays.toString(arguments);
         due.is(told, got.longValue(), want.longValue());
-        due.is(told + ", then count(8)", x.count(8), plain.count(8));
-        return want.longValue();
+        if (isFinding(want.longValue())) {
+            made++;
+            due.is(told + ", then count(8)", x.count(8), plain.count(8));
+        }
     }
 
     private void newCount() throws ReflectiveOperationException {
@@ -97,9 +107,9 @@ public final class ModelTest {
             call("put", 0, 2, i, all.get(i));
         }
         call("countBy", 0, m, random.nextBoolean());
-        if (x.count(0) > 0) {
-            call("person", random.nextInt(x.count(0)));
-            call("begins", random.nextInt(x.count(0)), random.nextInt(2));
+        if (plain.count(0) > 0) {
+            call("person", random.nextInt(plain.count(0)));
+            call("begins", random.nextInt(plain.count(0)), random.nextInt(2));
         }
     }
 
@@ -114,8 +124,8 @@ public final class ModelTest {
     }
 
     private void newGifts() throws ReflectiveOperationException {
-        for (int i = 0; i < 6 && x.count(3) > 1; i++) {
-            call("gift", random.nextInt(x.count(3)), random.nextInt(x.count(3)), 1 + random.nextInt(random.nextInt(5) == 0 ? 400 : 30));
+        for (int i = 0; i < 6 && plain.count(3) > 1; i++) {
+            call("gift", random.nextInt(plain.count(3)), random.nextInt(plain.count(3)), 1 + random.nextInt(random.nextInt(5) == 0 ? 400 : 30));
         }
         if (random.nextInt(3) == 0) {
             call("close");
@@ -171,9 +181,9 @@ public final class ModelTest {
 
     /** The largest argument that is mostly given, one by one. */
     private int[] tops(String name, int n) {
-        int c = random.nextInt(8) == 0 ? 6 : Math.max(0, x.count(0) - 1);
-        int p = random.nextInt(8) == 0 ? 8 : Math.max(0, x.count(3) - 1);
-        int l = random.nextInt(8) == 0 ? 8 : Math.max(0, x.count(4) - 1);
+        int c = random.nextInt(8) == 0 ? 6 : Math.max(0, plain.count(0) - 1);
+        int p = random.nextInt(8) == 0 ? 8 : Math.max(0, plain.count(3) - 1);
+        int l = random.nextInt(8) == 0 ? 8 : Math.max(0, plain.count(4) - 1);
         switch (name) {
             case "countBy": return new int[] {3, either(20, 4), 0};
             case "begins": return new int[] {c, 1};

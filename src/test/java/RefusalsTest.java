@@ -12,6 +12,7 @@ public final class RefusalsTest {
         worlds();
         asking();
         changing();
+        firstThatFits();
         nothingMade();
         countBy();
         fullOfClues();
@@ -76,6 +77,29 @@ public final class RefusalsTest {
         due.holds("close is seen", !World.ask(x).equals(World.ask(y)));
     }
 
+    /** Calls that may be refused for several reasons. */
+    private static void firstThatFits() {
+        due.says("Refusals, the first that fits: BAD -2 (a number not as told, no such thing), NULL of a SHEET that is asked, NOT -3 (as told), FULL -4, other FINDINGS.");
+        CROWDED.refuses(due, BAD, "countBy", 3, 21, false);
+        CROWDED.finds(due, NULL, "countBy", 3, 20, false);
+        CROWDED.refuses(due, NOT, "countBy", 1, 2, false);
+        CROWDED.refuses(due, FULL, "countBy", 0, 2, false);
+        CROWDED.refuses(due, BAD, "list", 3, 31, 0);
+        CROWDED.finds(due, NULL, "list", 3, 30, 0);
+        CROWDED.refuses(due, BAD, "type", 256);
+        CROWDED.refuses(due, BAD, "person", 6);
+        CROWDED.refuses(due, BAD, "gift", 1, 1, 400);
+        due.says("They change nothing (FINDINGS but count() 8).");
+        SOME.refuses(due, BAD, "sheet", 3, 3, -1);
+        SOME.finds(due, NULL, "put", 3, 0, -1, 0);
+        SOME.refuses(due, NOT, "gift", 1, 2, 400);
+        CROWDED.refuses(due, FULL, "mats", 0, 1, 1);
+        SOME.finds(due, INDEX, "put", 0, 0, -1, 0);
+        SOME.finds(due, CAST, "put", 0, 1, -1, 0);
+        SOME.finds(due, STORE, "copy", 0, 0, 1, 0, -1);
+        SOME.finds(due, SIZE, "sheet", 0, 0, -1);
+    }
+
     /** In a new object there is nothing to be changed. */
     private static void nothingMade() {
         due.says("No CLUES: how many there were.");
@@ -86,7 +110,7 @@ public final class RefusalsTest {
         EMPTY.refuses(due, 0, "close");
         SOME.refuses(due, 0, "close");
         CROWDED.refuses(due, 0, "close");
-        due.says("1 NULL: the SHEET is LOST;");
+        due.says("FINDINGS (answers -10 less the number; they change nothing but count() 8): 1 NULL: the SHEET is LOST;");
         for (int s = 0; s < 4; s++) {
             EMPTY.finds(due, NULL, "countBy", s, 1, false);
             EMPTY.finds(due, NULL, "list", s, 0, 0);

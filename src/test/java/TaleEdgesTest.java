@@ -27,7 +27,7 @@ public final class TaleEdgesTest {
     }
 
     private static void lostItems() {
-        due.says("(WORDS of a SHEET, those that are not 0 to 99 lost)");
+        due.says("A TALE is a row of POINTS (WORDS of a SHEET, those that are not 0 to 99 lost)");
         ArmCounts x = new ArmCounts();
         Due.count(x, true, 0, 99);
         Due.count(x, true, 1, 2);
@@ -101,7 +101,7 @@ public final class TaleEdgesTest {
     }
 
     private static void lostAbove400() {
-        due.says("all COUNT, START, STEP that FIT, all numbers (of lost items, too) being 400 at most;");
+        due.says("READINGS of a TALE: all COUNT, START, STEP that FIT, all numbers (of lost items, too) being 400 at most;");
         for (int n : new int[] {1, 2, 15, 16, 17, 29, 30}) {
             ArmCounts x = lostTale(n);
             int want = 0;
@@ -244,7 +244,7 @@ public final class TaleEdgesTest {
     }
 
     private static void numbers() {
-        due.says("perhaps m and one or two figures (MEN, 0 if not told), then p and one or two figures (PLACE, 1 and more).");
+        due.says("each: perhaps m and one or two figures (MEN, 0 if not told), then p and one or two figures (PLACE, 1 and more).");
         for (String text : new String[] {"p1", "p9", "p10", "p41", "p01", "p09", "m0p1", "m00p1", "m9p9", "m99p41", "m01p01"}) {
             faultOf(text, NONE);
             faultOf(text + "+" + text, NONE);

@@ -24,7 +24,7 @@ public final class TradeEdgesTest {
     }
 
     private static void heard() {
-        due.says("said are the WORD and HAND of its PLACE, and MEN;");
+        due.says("HEARD: N said by COUNT a, heard by COUNT b: said are the WORD and HAND of its PLACE, and MEN;");
         ArmCounts x = new ArmCounts();
         Due.count(x, true, 1, 2, 3);
         Due.count(x, true, 2, 3, 1);
@@ -149,8 +149,12 @@ public final class TradeEdgesTest {
         due.is("itself too", x.gift(1, 1, 400), BAD);
         due.is("no PERSON 2", x.gift(0, 2, 1), BAD);
         due.is("nothing is owed", x.count(6), 0);
+        due.says("A GIFT of n from one to another: so much more is owed by that one to the first.");
         due.is("1", x.gift(0, 1, 1), 1);
-        due.is("back", x.gift(1, 0, 1), 0);
+        due.is("1 more", x.gift(0, 1, 1), 2);
+        due.is("it is owed by 1", x.owed(1, 0), 2);
+        due.is("not by 0", x.owed(0, 1), 0);
+        due.is("back", x.gift(1, 0, 2), 0);
         due.is("400", x.gift(0, 1, 400), 400);
         due.is("400 back", x.gift(1, 0, 400), 0);
         due.is("400 the other way", x.gift(1, 0, 400), 400);
